@@ -165,7 +165,7 @@ public final class Treeletter {
     public boolean equal(int a, int b) throws IndexOutOfBoundsException {
         Tree one = document(a);
         Tree other = document(b);
-        return one.same(0, other, 0);
+        return one.same(0, other, 0, 0);
     }
 
     public int compare(int a, int b) throws IndexOutOfBoundsException, IllegalStateException {
@@ -271,7 +271,7 @@ public final class Treeletter {
     public int patch(int a, int b) throws IndexOutOfBoundsException, IllegalStateException {
         Tree one = document(a);
         Tree other = document(b);
-        orders.between(one, other, made);
+        orders.listTo(one, other, made);
         return admit(made);
     }
 
@@ -411,7 +411,7 @@ public final class Treeletter {
         for (int way = LEAST; way <= INDENTS && sound; way++) {
             draft.clear();
             Scribe.value(tree, 0, way, 0, draft);
-            sound = reader.parse(draft, 0) == NONE && reader.result().same(0, tree, 0);
+            sound = reader.parse(draft, 0) == NONE && reader.result().same(0, tree, 0, 0);
         }
         return sound;
     }
@@ -578,6 +578,23 @@ public final class Treeletter {
             }
         }
 
+        /** Adds a sign of a TEXT as it is written. */
+        void addWritten(int sign) {
+            if (sign >= 32 && sign <= 126) {
+                if (sign == '"' || sign == '\\') {
+                    add('\\');
+                }
+                add(sign);
+                return;
+            }
+            add('\\');
+            add('u');
+            add('0');
+            add('0');
+            add(sign / 16 % 16 < 10 ? '0' + sign / 16 % 16 : 'a' - 10 + sign / 16 % 16);
+            add(sign % 16 < 10 ? '0' + sign % 16 : 'a' - 10 + sign % 16);
+        }
+
         void addPart(Sheet other, int from, int to) {
             for (int i = Math.max(0, from); i < to && i < other.length(); i++) {
                 add(other.at(i));
@@ -672,15 +689,15 @@ public final class Treeletter {
         }
 
         int kind(int node) {
-            return has(node) ? kinds[node] : NONE;
+            return node >= 0 && node < count && node < NODES ? kinds[node] : NONE;
         }
 
         boolean is(int node, int kind) {
-            return has(node) && kinds[node] == kind;
+            return node >= 0 && node < count && node < NODES && kinds[node] == kind;
         }
 
         boolean isGroup(int node) {
-            return is(node, ROW) || is(node, MAP);
+            return node >= 0 && node < count && node < NODES && (kinds[node] == ROW || kinds[node] == MAP);
         }
 
         boolean isTrue(int node) {
@@ -692,25 +709,30 @@ public final class Treeletter {
         }
 
         int size(int node) {
-            return has(node) ? sizes[node] : 0;
+            return node >= 0 && node < count && node < NODES ? sizes[node] : 0;
         }
 
         /** The place behind all NODES of a NODE. */
         int after(int node) {
-            return node + Math.max(1, size(node));
+            return node >= 0 && node < count && node < NODES ? node + Math.max(1, sizes[node]) : node + 1;
         }
 
         int first(int group) {
-            return isGroup(group) && size(group) > 1 ? group + 1 : NONE;
+            boolean there = group >= 0 && group < count - 1 && group < NODES;
+            return there && kinds[group] >= ROW && sizes[group] > 1 ? group + 1 : NONE;
         }
 
         int firstOfMap(int map) {
-            return is(map, MAP) ? first(map) : NONE;
+            boolean there = map >= 0 && map < count - 1 && map < NODES;
+            return there && kinds[map] == MAP && sizes[map] > 1 ? map + 1 : NONE;
         }
 
         int next(int group, int value) {
-            int behind = after(value);
-            return behind < after(group) && has(behind) ? behind : NONE;
+            if (group < 0 || value <= group || value >= count || value >= NODES) {
+                return NONE;
+            }
+            int behind = value + Math.max(1, sizes[value]);
+            return behind < count && behind < group + sizes[group] ? behind : NONE;
         }
 
         int values(int group) {
@@ -887,10 +909,7 @@ public final class Treeletter {
         }
 
         private static int order(int a, int b) {
-            if (a < b) {
-                return -1;
-            }
-            return a > b ? 1 : 0;
+            return Math.max(-1, Math.min(1, a - b));
         }
 
         int orderOfNumbers(int node, Tree other, int its) {
@@ -907,24 +926,23 @@ public final class Treeletter {
 
         // ---- signs and KEYS
 
-        private int lengthOf(int node) {
-            return has(node) ? Math.min(lengths[node], TEXT_SIGNS) : 0;
+        int signAt(int node, int place) {
+            boolean there = node >= 0 && node < count && node < NODES && place >= 0 && place < TEXT_SIGNS;
+            return there && place < lengths[node] ? signs[node * TEXT_SIGNS + place] : NONE;
         }
 
-        int signAt(int node, int place) {
-            return place >= 0 && place < lengthOf(node) ? signs[node * TEXT_SIGNS + place] : NONE;
+        int lengthOf(int node) {
+            return node >= 0 && node < count && node < NODES ? lengths[node] : 0;
         }
 
         void addSign(int node, int sign) {
-            if (!has(node) || lengths[node] < 0) {
-                return;
-            }
-            if (lengths[node] >= TEXT_SIGNS) {
+            boolean there = node >= 0 && node < count && node < NODES && lengths[node] >= 0;
+            if (there && lengths[node] < TEXT_SIGNS) {
+                signs[node * TEXT_SIGNS + lengths[node]] = (char) sign;
+                lengths[node]++;
+            } else {
                 overfull = true;
-                return;
             }
-            signs[node * TEXT_SIGNS + lengths[node]] = (char) sign;
-            lengths[node]++;
         }
 
         void signsTo(int node, Sheet to) {
@@ -942,27 +960,26 @@ public final class Treeletter {
         }
 
         int keyLength(int node) {
-            return has(node) ? Math.min(keyLengths[node], KEY_SIGNS) : 0;
+            return node >= 0 && node < count && node < NODES ? keyLengths[node] : 0;
         }
 
         int keySign(int node, int place) {
-            return place >= 0 && place < keyLength(node) ? keys[node * KEY_SIGNS + place] : NONE;
+            boolean there = node >= 0 && node < count && node < NODES && place >= 0 && place < KEY_SIGNS;
+            return there && place < keyLengths[node] ? keys[node * KEY_SIGNS + place] : NONE;
         }
 
         void addKeySign(int node, int sign) {
-            if (!has(node) || keyLengths[node] < 0) {
-                return;
-            }
-            if (keyLengths[node] >= KEY_SIGNS) {
+            boolean there = node >= 0 && node < count && node < NODES && keyLengths[node] >= 0;
+            if (there && keyLengths[node] < KEY_SIGNS) {
+                keys[node * KEY_SIGNS + keyLengths[node]] = (char) sign;
+                keyLengths[node]++;
+            } else {
                 overfull = true;
-                return;
             }
-            keys[node * KEY_SIGNS + keyLengths[node]] = (char) sign;
-            keyLengths[node]++;
         }
 
         void clearKey(int node) {
-            if (has(node)) {
+            if (node >= 0 && node < count && node < NODES) {
                 keyLengths[node] = 0;
             }
         }
@@ -996,11 +1013,17 @@ public final class Treeletter {
 
         /** -1, 0, 1, as its KEY is ahead of the other one's, the same, behind it. */
         private int orderOfKeys(int node, Tree other, int its) {
-            int order = 0;
-            for (int i = 0; i <= KEY_SIGNS && order == 0; i++) {
-                order = order(keySign(node, i), other.keySign(its, i));
+            if (node < 0 || node >= NODES || its < 0 || its >= NODES) {
+                return NONE;
             }
-            return order;
+            int shared = Math.min(Math.min(keyLengths[node], other.keyLengths[its]), KEY_SIGNS);
+            for (int i = 0; i < shared; i++) {
+                int order = keys[node * KEY_SIGNS + i] - other.keys[its * KEY_SIGNS + i];
+                if (order != 0) {
+                    return order < 0 ? -1 : 1;
+                }
+            }
+            return Math.max(-1, Math.min(1, keyLengths[node] - other.keyLengths[its]));
         }
 
         int valueLike(int map, Tree other, int its) {
@@ -1060,29 +1083,25 @@ public final class Treeletter {
 
         // ---- EQUAL
 
-        boolean same(int node, Tree other, int its) {
-            return alike(node, other, its, 0);
-        }
-
-        private boolean alike(int node, Tree other, int its, int open) {
+        /** Whether two VALUES are EQUAL; open tells in how many others they are, 0 at first. */
+        boolean same(int node, Tree other, int its, int open) {
             if (!has(node) || kind(node) != other.kind(its) || size(node) != other.size(its) || open > DEPTH) {
                 return false;
             }
             if (!isGroup(node)) {
-                return alikeSigns(node, other, its);
+                return sameSigns(node, other, its);
             }
             boolean ordered = is(node, ROW);
             boolean same = values(node) == other.values(its);
             int d = other.first(its);
             for (int c = first(node), n = 0; c != NONE && n < NODES && same; c = next(node, c), n++) {
-                int partner = ordered ? d : other.valueLike(its, this, c);
-                same = alike(c, other, partner, open + 1);
+                same = same(c, other, ordered ? d : other.valueLike(its, this, c), open + 1);
                 d = other.next(its, d);
             }
             return same;
         }
 
-        private boolean alikeSigns(int node, Tree other, int its) {
+        private boolean sameSigns(int node, Tree other, int its) {
             boolean same = powerOrTruth(node) == other.powerOrTruth(its) && lengthOf(node) == other.lengthOf(its);
             for (int i = 0; i < lengthOf(node) && same; i++) {
                 same = signAt(node, i) == other.signAt(its, i);
@@ -1091,7 +1110,7 @@ public final class Treeletter {
         }
 
         private int powerOrTruth(int node) {
-            return has(node) ? powers[node] : 0;
+            return node >= 0 && node < count && node < NODES ? powers[node] : 0;
         }
 
         // ---- PLAIN PATHS
@@ -1319,7 +1338,7 @@ public final class Treeletter {
 
         /** Steps over a sign that has to be there. */
         private void pass(int sign) {
-            if (here() == sign) {
+            if (source.at(place) == sign) {
                 place++;
             } else {
                 fail(place);
@@ -1424,7 +1443,7 @@ public final class Treeletter {
         }
 
         private int hexFigure() {
-            int sign = here();
+            int sign = source.at(place);
             if (goesOn() && isFigure(sign)) {
                 place++;
                 return sign - '0';
@@ -1582,8 +1601,8 @@ public final class Treeletter {
 
         private static void text(Tree tree, int node, Sheet to) {
             to.add('"');
-            for (int i = 0; i < tree.length(node); i++) {
-                sign(tree.signAt(node, i), to);
+            for (int i = 0; i < tree.lengthOf(node); i++) {
+                to.addWritten(tree.signAt(node, i));
             }
             to.add('"');
         }
@@ -1591,26 +1610,9 @@ public final class Treeletter {
         private static void key(Tree tree, int node, Sheet to) {
             to.add('"');
             for (int i = 0; i < tree.keyLength(node); i++) {
-                sign(tree.keySign(node, i), to);
+                to.addWritten(tree.keySign(node, i));
             }
             to.add('"');
-        }
-
-        private static void sign(int sign, Sheet to) {
-            if (sign >= 32 && sign <= 126) {
-                if (sign == '"' || sign == '\\') {
-                    to.add('\\');
-                }
-                to.add(sign);
-                return;
-            }
-            to.addAll("\\u00");
-            hexFigure(sign / 16 % 16, to);
-            hexFigure(sign % 16, to);
-        }
-
-        private static void hexFigure(int figure, Sheet to) {
-            to.add(figure < 10 ? '0' + figure : 'a' + figure - 10);
         }
 
         private static void group(Tree tree, int node, int way, int indent, Sheet to) {
@@ -1778,16 +1780,23 @@ public final class Treeletter {
         }
 
         void seek(Tree tree, Route route) {
-            count = 0;
-            forgetMet();
+            begin();
             meet(0);
             for (int i = 0; i < route.steps(); i++) {
                 route.wordTo(i, word);
-                step(tree);
+                int n = Math.min(count, NODES);
+                for (int k = 0; k < n; k++) {
+                    before[k] = finds[k];
+                }
+                begin();
+                for (int k = 0; k < n; k++) {
+                    stepFrom(tree, before[k]);
+                }
             }
         }
 
-        private void forgetMet() {
+        private void begin() {
+            count = 0;
             for (int i = 0; i < NODES; i++) {
                 met[i] = false;
             }
@@ -1798,18 +1807,6 @@ public final class Treeletter {
                 met[node] = true;
                 finds[count] = node;
                 count++;
-            }
-        }
-
-        private void step(Tree tree) {
-            int n = Math.min(count, NODES);
-            for (int i = 0; i < n; i++) {
-                before[i] = finds[i];
-            }
-            count = 0;
-            forgetMet();
-            for (int i = 0; i < n; i++) {
-                stepFrom(tree, before[i]);
             }
         }
 
@@ -1860,22 +1857,16 @@ public final class Treeletter {
     /** Makes the ORDERS of PATCHES. */
     private static final class Orders {
         private final Sheet path = new Sheet(PAGE_SIGNS);
+        private final boolean[] equals = new boolean[NODES * NODES];
         private final int[] pairs = new int[NODES * NODES];
         private final int[] ones = new int[NODES];
         private final int[] others = new int[NODES];
-        private final boolean[] kept = new boolean[NODES];
-        private Tree one;
-        private Tree other;
-        private Tree list;
-
-        Orders() {
-            list = new Tree();
-            one = list;
-            other = list;
-        }
+        private Tree list = new Tree();
+        private Tree one = list;
+        private Tree other = list;
 
         /** The PATCH from a tree to another one. */
-        void between(Tree a, Tree b, Tree to) {
+        void listTo(Tree a, Tree b, Tree to) {
             one = a;
             other = b;
             list = to;
@@ -1887,7 +1878,7 @@ public final class Treeletter {
         }
 
         private void between(int i, int j, int open) {
-            if (one.same(i, other, j) || open > DEPTH) {
+            if (one.same(i, other, j, 0) || open > DEPTH) {
                 return;
             }
             if (one.is(i, MAP) && other.is(j, MAP)) {
@@ -1928,20 +1919,17 @@ public final class Treeletter {
         private void betweenRows(int i, int j) {
             int n = gather(one, i, ones);
             int m = gather(other, j, others);
+            matchAll(n, m);
             countPairs(n, m);
-            for (int k = 0; k < NODES; k++) {
-                kept[k] = false;
-            }
-            // Those of the other one that are kept are marked as -1.
             markPairs(n, m);
             int here = path.length();
-            for (int k = n - 1; k >= 0; k--) {
-                if (!kept[k]) {
+            for (int k = n - 1; k >= 0 && k < NODES; k--) {
+                if (ones[k] != NONE) {
                     addAtPlace("remove", k, NONE);
                     path.shorten(here);
                 }
             }
-            for (int k = 0; k < m; k++) {
+            for (int k = 0; k < m && k < NODES; k++) {
                 if (others[k] != NONE) {
                     addAtPlace("add", k, others[k]);
                     path.shorten(here);
@@ -1964,34 +1952,40 @@ public final class Treeletter {
             return n;
         }
 
-        private boolean isPair(int i, int j) {
-            return i >= 0 && i < NODES && j >= 0 && j < NODES && one.same(ones[i], other, others[j]);
+        private void matchAll(int n, int m) {
+            for (int i = 0; i < n && i < NODES; i++) {
+                for (int j = 0; j < m && j < NODES; j++) {
+                    equals[i * NODES + j] = one.same(ones[i], other, others[j], 0);
+                }
+            }
         }
 
         private int pairsFrom(int i, int j) {
             return i >= 0 && i < NODES && j >= 0 && j < NODES ? pairs[i * NODES + j] : 0;
         }
 
-        /** Counts, for all ends of both ROWS, how many pairs can be COMMON. */
+        /** Counts, from each two places on, how many pairs can be COMMON. */
         private void countPairs(int n, int m) {
             for (int i = Math.min(n, NODES - 1); i >= 0; i--) {
                 for (int j = Math.min(m, NODES - 1); j >= 0; j--) {
-                    int most = 0;
-                    if (i < n && j < m) {
-                        most = isPair(i, j) ? pairsFrom(i + 1, j + 1) + 1
-                                : Math.max(pairsFrom(i + 1, j), pairsFrom(i, j + 1));
+                    int most = Math.max(pairsFrom(i + 1, j), pairsFrom(i, j + 1));
+                    if (i == n || j == m) {
+                        most = 0;
+                    } else if (equals[i * NODES + j]) {
+                        most = pairsFrom(i + 1, j + 1) + 1;
                     }
                     pairs[i * NODES + j] = most;
                 }
             }
         }
 
+        /** Puts NONE for those of both ROWS that are COMMON. */
         private void markPairs(int n, int m) {
             int i = 0;
             int j = 0;
             for (int k = 0; k < 2 * NODES && i < n && j < m && i < NODES && j < NODES; k++) {
-                if (isPair(i, j)) {
-                    kept[i] = true;
+                if (equals[i * NODES + j]) {
+                    ones[i] = NONE;
                     others[j] = NONE;
                     i++;
                     j++;
@@ -2056,6 +2050,7 @@ public final class Treeletter {
 
         /** Whether what is PUT can be, and leaves a DOCUMENT. */
         boolean putIn(Route by, Tree source, int from) {
+            owner = by.leadsTo(work, by.steps() - 1);
             if (!aim(by)) {
                 return false;
             }
@@ -2089,12 +2084,10 @@ public final class Treeletter {
         /** Whether there is a place for what would be PUT. */
         private boolean aim(Route by) {
             at = 0;
-            owner = NONE;
             inPlace = by.steps() == 0;
             if (inPlace) {
                 return true;
             }
-            owner = by.leadsTo(work, by.steps() - 1);
             by.wordTo(by.steps() - 1, word);
             if (work.is(owner, MAP)) {
                 at = work.valueOf(owner, word);
@@ -2195,7 +2188,7 @@ public final class Treeletter {
 
         private boolean isThere(Tree list, int value) {
             int node = route.leadsTo(work, route.steps());
-            if (node == NONE || !work.same(node, list, value)) {
+            if (node == NONE || !work.same(node, list, value, 0)) {
                 return false;
             }
             if (turning) {
@@ -2253,7 +2246,7 @@ public final class Treeletter {
         }
 
         private static boolean alike(Tree a, int i, Tree b, int j) {
-            return i == NONE || j == NONE ? i == j : a.same(i, b, j);
+            return i == NONE || j == NONE ? i == j : a.same(i, b, j, 0);
         }
 
         private void uniteAt(int o, int a, int b, int open) {
@@ -2450,11 +2443,15 @@ public final class Treeletter {
         private boolean ask(int by, int node, boolean muted, int open) {
             asked++;
             tooMuch = tooMuch || asked > mostAsked || open > OPEN_ASKS;
-            if (tooMuch || !schema.is(by, MAP)) {
-                if (!schema.isTrue(by)) {
+            if (tooMuch) {
+                return false;
+            }
+            if (!schema.is(by, MAP)) {
+                boolean says = schema.isTrue(by);
+                if (!says) {
                     complain(node, 0, muted);
                 }
-                return schema.isTrue(by);
+                return says;
             }
             boolean yes = true;
             for (int number = 1; number <= 15; number++) {
@@ -2647,7 +2644,7 @@ public final class Treeletter {
         private boolean isOneOf(int said, int node) {
             boolean some = false;
             for (int c = schema.first(said), n = 0; c != NONE && n < NODES; c = schema.next(said, c), n++) {
-                some = some || schema.same(c, tree, node);
+                some = some || schema.same(c, tree, node, 0);
             }
             return some;
         }
@@ -2658,6 +2655,7 @@ public final class Treeletter {
         private final Tree made = new Tree();
         private final Tree spare = new Tree();
         private final Sheet figures = new Sheet(FIGURES);
+        private final Sheet key = new Sheet(KEY_SIGNS);
         private int x;
 
         Tree result() {
@@ -2711,24 +2709,26 @@ public final class Treeletter {
             int node = made.add(kind);
             int n = draw(size + 1);
             for (int i = 0; i < n && level < 3; i++) {
-                int key = kind == MAP ? 97 + draw(5) : NONE;
-                made.close(node);
-                figures.clear();
-                figures.add(key);
-                int old = kind == MAP ? made.valueOf(node, figures) : NONE;
-                int fresh = sprout(level + 1, size);
-                if (kind == MAP) {
-                    grown(old, fresh, key);
+                if (kind == ROW) {
+                    sprout(level + 1, size);
+                } else {
+                    entry(node, level, size);
                 }
             }
             made.close(node);
             return node;
         }
 
-        /** A VALUE that has grown comes behind all others, or in the place of the one of its KEY. */
-        private void grown(int old, int fresh, int key) {
+        /** A KEY and a VALUE, behind all others, or in the place of the one of that KEY. */
+        private void entry(int map, int level, int size) {
+            key.clear();
+            key.add(97 + draw(5));
+            made.close(map);
+            int old = made.valueOf(map, key);
+            int sign = key.at(0);
+            int fresh = sprout(level + 1, size);
             if (old == NONE) {
-                made.addKeySign(fresh, key);
+                made.addKeySign(fresh, sign);
             } else {
                 made.replaceByLast(old, fresh, spare);
             }
