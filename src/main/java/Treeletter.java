@@ -680,10 +680,6 @@ public final class Treeletter {
             return overfull;
         }
 
-        void overfill() {
-            overfull = true;
-        }
-
         boolean has(int node) {
             return node >= 0 && node < count && node < NODES;
         }
@@ -852,7 +848,7 @@ public final class Treeletter {
         private boolean hasSoundKeys(int map) {
             boolean sound = true;
             for (int c = firstOfMap(map), n = 0; c != NONE && n < NODES && sound; c = next(map, c), n++) {
-                sound = keyLengths[c] <= KEY_SIGNS && valueLike(map, this, c) == c;
+                sound = keyLength(c) <= KEY_SIGNS && valueLike(map, this, c) == c;
             }
             return sound;
         }
@@ -861,6 +857,9 @@ public final class Treeletter {
 
         /** Sets figures times 10 to a power, of any power; whether the NUMBER is one by its POWER. */
         boolean setNumber(int node, boolean negative, Sheet figures, int power) {
+            if (!has(node)) {
+                return false;
+            }
             int from = 0;
             int to = figures.length();
             while (from < to && figures.at(from) == '0') {
@@ -868,9 +867,6 @@ public final class Treeletter {
             }
             while (to > from && figures.at(to - 1) == '0') {
                 to--;
-            }
-            if (!has(node)) {
-                return false;
             }
             lengths[node] = 0;
             if (from == to) {
@@ -1084,7 +1080,7 @@ public final class Treeletter {
         // ---- EQUAL
 
         /** Whether two VALUES are EQUAL; open tells in how many others they are, 0 at first. */
-        boolean same(int node, Tree other, int its, int open) {
+        private boolean same(int node, Tree other, int its, int open) {
             if (!has(node) || kind(node) != other.kind(its) || size(node) != other.size(its) || open > DEPTH) {
                 return false;
             }
@@ -1194,7 +1190,7 @@ public final class Treeletter {
             clearKey(0);
         }
 
-        void appendInOrder(Tree source, int from, int open) {
+        private void appendInOrder(Tree source, int from, int open) {
             if (!source.has(from) || count >= NODES || open > DEPTH) {
                 overfull = true;
                 return;
@@ -1571,7 +1567,7 @@ public final class Treeletter {
 
     /** Writes VALUES. */
     private static final class Scribe {
-        static void value(Tree tree, int node, int way, int indent, Sheet to) {
+        private static void value(Tree tree, int node, int way, int indent, Sheet to) {
             switch (tree.kind(node)) {
                 case NOTHING:
                     to.addAll("null");
@@ -2672,7 +2668,7 @@ public final class Treeletter {
             return n > 0 ? x / 16 % n : 0;
         }
 
-        int sprout(int level, int size) {
+        private int sprout(int level, int size) {
             int t = draw(level == 0 || level >= 3 ? 4 : 8) + (level == 0 ? 4 : 0);
             switch (t) {
                 case 0:
