@@ -447,10 +447,11 @@ public final class Treeletter {
     }
 
     private Tree document(int doc) {
-        if (doc < 0 || doc >= count || doc >= documents.length) {
+        Tree tree = doc >= 0 && doc < count && doc < documents.length ? documents[doc] : null;
+        if (tree == null) {
             throw new IndexOutOfBoundsException();
         }
-        return documents[doc];
+        return tree;
     }
 
     private Tree documentWith(int doc, int node) {
@@ -468,10 +469,11 @@ public final class Treeletter {
     }
 
     private int admit(Tree tree) {
-        if (count < 0 || count >= documents.length || !tree.isDocument()) {
+        Tree place = count >= 0 && count < documents.length ? documents[count] : null;
+        if (place == null || !tree.isDocument()) {
             throw new IllegalStateException();
         }
-        documents[count].copyOf(tree, 0);
+        place.copyOf(tree, 0);
         count++;
         return count - 1;
     }
@@ -484,8 +486,8 @@ public final class Treeletter {
 
     private int allNodes() {
         int nodes = 0;
-        for (int i = 0; i < count && i < documents.length; i++) {
-            nodes += documents[i].count();
+        for (int i = 0; i < count; i++) {
+            nodes += document(i).count();
         }
         return nodes;
     }
@@ -1401,7 +1403,10 @@ public final class Treeletter {
                     fail(place);
                 } else if (here() == '\\') {
                     place++;
-                    to.add(escaped());
+                    int sign = escaped();
+                    if (goesOn()) {
+                        to.add(sign);
+                    }
                 } else {
                     to.add(here());
                     place++;
@@ -2281,9 +2286,7 @@ public final class Treeletter {
             }
             for (int c = other.first(b), n = 0; c != NONE && n < NODES; c = other.next(b, c), n++) {
                 if (common.valueLike(o, other, c) == NONE && one.valueLike(a, other, c) == NONE) {
-                    other.stepTo(c, path);
-                    uniteAt(NONE, NONE, c, open + 1);
-                    path.shorten(here);
+                    accept(other, c);
                 }
             }
             made.close(map);

@@ -512,6 +512,9 @@ public final class PromiseTest {
         due("as many NODES in another shape", equal("[[1],2]", "[1,[2]]"), false);
         due("a shorter ROW", equal("[[1,2]]", "[[1],2]"), false);
         due("TEXTS", equal("\"ab\"", "\"a\\u0062\""), true);
+        String deep = times("[{\"b\":0,\"a\":", 6);
+        due("DEPTH 12", equal(deep + "1" + times("}]", 6), times("[{\"a\":", 6) + "1" + times(",\"b\":0}]", 6)), true);
+        due("DEPTH 12, not", equal(deep + "1" + times("}]", 6), deep + "2" + times("}]", 6)), false);
         Desk d = new Desk();
         d.read("1");
         due("itself", d.t.equal(0, 0), true);
@@ -596,7 +599,10 @@ public final class PromiseTest {
         d.read("5");
         d.t.sorted(2);
         due("a NUMBER", d.least(3), "5");
-        refuses(d, "no doc", IOOBE, () -> d.t.sorted(4));
+        d.read(times("[{\"b\":0,\"a\":", 6) + "1" + times("}]", 6));
+        d.t.sorted(4);
+        due("DEPTH 12", d.least(5), times("[{\"a\":", 6) + "1" + times(",\"b\":0}]", 6));
+        refuses(d, "no doc", IOOBE, () -> d.t.sorted(6));
         d.fill();
         refuses(d, "the 41st", ISE, () -> d.t.sorted(0));
         refuses(d, "no doc, of 40", IOOBE, () -> d.t.sorted(40));
@@ -959,6 +965,9 @@ public final class PromiseTest {
         due("all of b is new", patched("[]", "[1,[2]]"), "[" + valued("add", "/0", "1") + "," + valued("add", "/1", "[2]") + "]");
         due("VALUES of ROWS are not gone into", patched("[[1,2]]", "[[1]]"), "[" + order("remove", "/0", "") + "," + valued("add", "/0", "[1]") + "]");
         due("that of b is left out", patched("[1,2,3]", "[4,1,2,3]"), "[" + valued("add", "/0", "4") + "]");
+        String deep = times("{\"a\":", 12);
+        due("DEPTH 12", patched(deep + "1" + times("}", 12), deep + "2" + times("}", 12)),
+            "[" + valued("replace", times("/a", 12), "2") + "]");
         Desk d = new Desk();
         String key = "123456789012";
         // A PATH of 40 signs, and of 41.
@@ -1086,6 +1095,12 @@ public final class PromiseTest {
             "{\"b\":2,\"a\":1,\"c\":[]}");
         due("QUARRELS in order", joined("{\"c\":0,\"d\":{\"e~\":0}}", "{\"d\":{\"e~\":1},\"n/\":1,\"c\":1}", "{\"n/\":2,\"c\":2,\"d\":{\"e~\":2}}"),
             "-1 </c> </d/e~0> </n~1>");
+        String deep = times("{\"a\":", 12);
+        String ends = times("}", 11);
+        due("DEPTH 12", joined(deep + "0}" + ends, deep + "0,\"x\":1}" + ends, deep + "2}" + ends), deep + "2,\"x\":1}" + ends);
+        due("DEPTH 12, a QUARREL", joined(deep + "0}" + ends, deep + "1}" + ends, deep + "2}" + ends), "-1 <" + times("/a", 12) + ">");
+        due("DEPTH 12 over none", joined("{}", deep + "0}" + ends, deep.substring(5, 60) + "{\"b\":0}" + ends).length(),
+            (deep + "0,\"b\":0}" + ends).length());
         Desk d = new Desk();
         d.read("{\"a\":0}");
         d.read("{\"a\":1}");
@@ -1154,6 +1169,13 @@ public final class PromiseTest {
         refuses(d, "-1", IOOBE, () -> d.t.quarrel(-1));
         d.t.join(0, 1, 0);
         refuses(d, "none", IOOBE, () -> d.t.quarrel(0));
+        d.read("7");
+        d.read("{\"a~/\":{\"\":{\"\\u00ff\":1}},\"b\":3}");
+        d.t.join(d.t.sum(0) - 2, 1, 2);
+        due("a join with another one", d.t.quarrel(0), 0);
+        d.t.join(0, 2, d.t.sum(0) - 1);
+        due("and another one", d.t.quarrel(1), 9);
+        due("the first of it", d.t.quarrel(0), 2);
     }
 
     // ---- 27 to 29
@@ -1172,6 +1194,10 @@ public final class PromiseTest {
 
     private static void says(String schema, String value, String want) {
         due(schema + " to " + value, new Desk().check(schema, value), want);
+        if (!schema.contains("\"ref\"")) {
+            String not = "{\"not\":" + schema + "}";
+            due(not + " to " + value, new Desk().check(not, value), want.isEmpty() ? "0:14" : "");
+        }
     }
 
     private static void check() {
@@ -1202,6 +1228,8 @@ public final class PromiseTest {
         says("{\"least\":5,\"most\":4}", "\"x\"", "");
         says("{\"shortest\":1,\"longest\":2}", "\"\"", "0:4");
         says("{\"shortest\":1,\"longest\":2}", "\"ab\"", "");
+        says("{\"shortest\":2,\"longest\":1}", "\"ab\"", "0:5");
+        says("{\"shortest\":3,\"longest\":3}", "[1,[2],{}]", "");
         says("{\"shortest\":1.5,\"longest\":2.5}", "\"a\"", "0:4");
         says("{\"shortest\":1,\"longest\":2}", "[1,[2,3],4]", "0:5");
         says("{\"shortest\":1,\"longest\":2}", "{}", "0:4");
@@ -1253,6 +1281,15 @@ public final class PromiseTest {
         says("{\"names\":{\"a\":{\"ref\":\"b\"},\"b\":{\"all\":[{\"ref\":\"a\"},false]}},\"ref\":\"a\"}", "5", "0:0");
         says("{\"names\":{\"a\":{\"kind\":\"row\",\"items\":{\"ref\":\"a\"}}},\"ref\":\"a\"}", "[[],[[1]]]", "4:1");
         says("{\"names\":{\"a\":{\"all\":[{\"ref\":\"b\"},{\"ref\":\"b\"}]},\"b\":false},\"ref\":\"a\"}", "1", "0:0 0:0");
+        says("{\"names\":{\"a\":{\"ref\":\"a\"}},\"items\":{\"ref\":\"a\"}}", "[5]", "");
+        says("{\"names\":{\"a\":{\"items\":{\"ref\":\"a\"},\"least\":6}},\"items\":{\"ref\":\"a\"}}", "[[5,6]]", "2:2");
+        says("{\"names\":{\"a\":true},\"all\":[" + joinedTimes("{\"ref\":\"a\"}", 15) + "]}", "1", "");
+        says("{\"names\":{\"a\":false},\"all\":[{\"ref\":\"a\"},{\"ref\":\"a\"}],\"ref\":\"a\"}", "1", "0:0 0:0 0:0");
+        says("{\"names\":{\"a\":{\"ref\":\"b\"},\"b\":{\"kind\":\"row\",\"items\":{\"ref\":\"a\"}}},\"ref\":\"a\"}", "[[1],[]]", "2:1");
+        says("{\"names\":{\"a\":false},\"not\":{\"ref\":\"a\"}}", "1", "");
+        says("{\"names\":{\"a\":true},\"not\":{\"ref\":\"b\"}}", "1", "");
+        says("{\"names\":{\"a\":true},\"not\":{\"ref\":\"a\"}}", "1", "0:14");
+        says("{\"names\":{\"a\":{\"all\":[true,{\"ref\":\"a\"}]}},\"ref\":\"a\"}", "1", "");
         StringBuilder chain = new StringBuilder("{\"names\":{");
         for (int i = 0; i < 14; i++) {
             chain.append("\"a").append(i).append("\":{\"ref\":\"a").append(i + 1).append("\"},");
@@ -1398,6 +1435,9 @@ public final class PromiseTest {
         due("no MAPS", tabled("[]", true), "{}");
         due("a NUMBER in it", tabled("[{},1]", true), "refused");
         due("a MAP", tabled("{}", true), "refused");
+        Desk twice = new Desk();
+        twice.read("[{\"a\":1,\"b\":2},{\"a\":3,\"b\":4}]");
+        due("there and back and there", twice.least(twice.t.columns(twice.t.rows(twice.t.columns(0)))), "{\"a\":[1,3],\"b\":[2,4]}");
         due("a TEXT", tabled("\"a\"", true), "refused");
         StringBuilder wide = new StringBuilder("[{\"a0\":1");
         for (int i = 1; i < 9; i++) {
