@@ -527,25 +527,29 @@ public final class RandomRuns {
         }
     }
 
+    private int extreme() {
+        return rarely(2) ? random.nextInt() : rarely(2) ? Integer.MIN_VALUE + draw(3) : Integer.MAX_VALUE - draw(3);
+    }
+
     private void playWild() {
         String name = of("write", "paper", "rule", "print", "node", "tell", "compare", "digest", "take", "both", "undo", "find",
                 "quarrel", "complaint", "columns", "rows", "grow", "vary", "sum", "isSound", "equal", "sorted", "read", "select",
                 "put", "cut", "lay", "patch", "turn", "join", "check", "wipe", "standard");
-        int a = draw(46) - 3;
-        int b = rarely(3) ? draw(120) - 10 : draw(14) - 2;
+        int a = rarely(30) ? extreme() : draw(46) - 3;
+        int b = rarely(30) ? extreme() : rarely(3) ? draw(120) - 10 : draw(14) - 2;
         switch (name) {
             case "write":
                 call(name, draw(12) - 1, rarely(2) ? random.nextLong() : (long) draw(70000));
                 break;
             case "paper":
-                call(name, draw(60) - 5, draw(11) - 1);
+                call(name, rarely(20) ? extreme() : draw(60) - 5, rarely(20) ? extreme() : draw(11) - 1);
                 break;
             case "rule":
                 call(name, draw(5) - 1);
                 break;
             case "tell":
             case "node":
-                call(name, a, b, draw(14) - 2);
+                call(name, a, b, rarely(20) ? extreme() : draw(14) - 2);
                 break;
             case "print":
                 call(name, a, draw(6) - 1);
@@ -569,10 +573,10 @@ public final class RandomRuns {
                 call(name, doc(), doc());
                 break;
             case "grow":
-                call(name, rarely(9) ? 65536 : draw(65540) - 2, draw(6) - 1);
+                call(name, rarely(9) ? 65536 : rarely(20) ? extreme() : draw(65540) - 2, rarely(20) ? extreme() : draw(6) - 1);
                 break;
             case "vary":
-                call(name, a, rarely(9) ? -1 : draw(65540) - 2);
+                call(name, a, rarely(9) ? extreme() : draw(65540) - 2);
                 break;
             case "undo":
             case "read":
@@ -612,8 +616,57 @@ public final class RandomRuns {
         clear(3);
     }
 
+    private String figures(int most) {
+        StringBuilder b = new StringBuilder();
+        for (int n = draw(most) + 1; n > 0; n--) {
+            b.append(rarely(3) ? of("0", "9") : "" + draw(10));
+        }
+        return b.toString();
+    }
+
+    private void playNumbers() {
+        String one = of("", "-") + figures(14) + of("", "." + figures(13)) + of("", "e" + (draw(200) - 100), "E+" + draw(20));
+        String other = rarely(3) ? one.replace("9", "8") : rarely(2) ? one + "0" : of("", "-") + figures(6);
+        int a = wipeAndRead(one);
+        int b = wipeAndRead(other);
+        if (a >= 0 && b >= 0) {
+            call("compare", a, b);
+            call("compare", b, a);
+            call("equal", a, b);
+            call("both", a, b);
+        }
+        clear(6);
+    }
+
+    /** DOCUMENTS near their bounds, by doubling, and by KEYS and ROWS within each other. */
+    private void playBig() {
+        int doc = doc();
+        for (int i = draw(4); i > 0; i--) {
+            int twice = call("both", doc, rarely(2) ? doc : doc());
+            doc = twice > 0 ? twice : doc;
+        }
+        for (int i = draw(4); i > 0; i--) {
+            int box = wipeAndRead(of("{\"abcdefghijkl\":{\"bcdefghijklm\":{}}}", "{\"a\":[[]]}", "[[],{\"a\":{}}]", "[1,[2,[3,[]]]]"));
+            if (box >= 0) {
+                typePath(place(value(box)) + of("/x", "/0", "/-", "/bcdefghijk~0~1", "/0"));
+                int full = call("put", box, doc);
+                doc = full > 0 ? full : doc;
+            }
+        }
+        int varied = call("vary", doc, draw(65536));
+        int patch = call("patch", doc, varied);
+        if (patch > 0 && varied > 0) {
+            call("lay", doc, patch);
+            call("turn", doc, patch);
+        }
+        call("patch", doc(), doc);
+        call("columns", doc);
+        call("join", doc(), doc, doc());
+        clear(20);
+    }
+
     private void step() {
-        int kind = draw(3) == 0 ? theme : draw(12);
+        int kind = draw(3) == 0 ? theme : draw(14);
         switch (kind) {
             case 0:
                 readSome();
@@ -658,6 +711,12 @@ public final class RandomRuns {
                 call("print", doc(), draw(3));
                 clear(20);
                 break;
+            case 11:
+                playNumbers();
+                break;
+            case 12:
+                playBig();
+                break;
             default:
                 playWild();
                 break;
@@ -665,7 +724,7 @@ public final class RandomRuns {
     }
 
     private void play() {
-        theme = draw(12);
+        theme = draw(14);
         call("grow", draw(65536), 3);
         wipeAndRead("{\"a\":1,\"b\":[1,2,{\"a\":1}],\"c\":{\"d\":\"x\"}}");
         for (int i = 0; i < 60; i++) {
