@@ -1398,7 +1398,7 @@ public final class Treeletter {
         private void readSigns(Sheet to, int most) {
             to.clear();
             pass('"');
-            while (place < source.length() && here() != '"' && goesOn()) {
+            for (int n = 0; n <= most && here() != '"' && goesOn(); n++) {
                 if (to.length() >= most || here() < 32) {
                     fail(place);
                 } else if (here() == '\\') {
@@ -1499,7 +1499,7 @@ public final class Treeletter {
             if (!isFigure(here())) {
                 fail(place);
             }
-            while (place < source.length() && isFigure(here()) && goesOn()) {
+            for (int n = 0; n <= FIGURES && isFigure(here()) && goesOn(); n++) {
                 readFigure();
             }
         }
