@@ -3,6 +3,7 @@ import java.io.IOException;
 /** For each sentence of the document that names a boundary, a test of its own. */
 public final class BoundaryTest {
     public static void main(String[] args) throws IOException {
+        GeneralBoundaries.all();
         TypingBoundaries.all();
         ReadingBoundaries.all();
         ValueBoundaries.all();
