@@ -59,6 +59,12 @@ final class JoinBoundaries extends Boundaries {
         joins(test, "1e0", "[2]", "1", "[2]");
         joins(test, "{\"a\":1,\"b\":2}", "{\"b\":2,\"a\":1}", "{\"b\":3,\"a\":1}", "{\"b\":3,\"a\":1}");
         joins(test, "{\"a\":1,\"b\":2}", "{\"b\":3,\"a\":1}", "{\"b\":2,\"a\":1}", "{\"b\":3,\"a\":1}");
+        String one = times("[", 12) + "1" + times("]", 12);
+        String two = times("[", 12) + "2" + times("]", 12);
+        joins(test, one, one, two, two);
+        joins(test, one, two, one, two);
+        joins(test, one, two, two, two);
+        joins(test, one, two, deep(12), "!");
         joins(test, "1", "2", "3", "!");
         joins(test, "[]", "[1]", "[2]", "!");
         joins(test, "[]", "[1]", "[1,2]", "!");

@@ -385,11 +385,13 @@ final class PatchBoundaries extends Boundaries {
         most.behind(r -> {
             r.readOnes(10);
             r.readOnes(9);
-            reading("[1,2]", "[2,1]").on(r);
-        }).takes("behind a greater one", r -> r.t().patch(0, 1) + r.least(r.t().patch(2, 3)),
-            "4[" + remove("/0") + "," + valued("add", "/1", "1") + "]")
+            reading("[1,2]", "[2,1]", "[1]").on(r);
+        }).takes("more of a, behind a greater one", r -> r.t().patch(0, 1) + r.least(r.t().patch(2, 4)), "5[" + remove("/1") + "]")
+            .takes("more of b, behind a greater one", r -> r.t().patch(1, 0) + r.least(r.t().patch(4, 2)), "5[" + valued("add", "/1", "2") + "]")
+            .takes("behind a greater one", r -> r.t().patch(0, 1) + r.least(r.t().patch(2, 3)),
+            "5[" + remove("/0") + "," + valued("add", "/1", "1") + "]")
             .takes("behind another greater one", r -> r.t().patch(1, 0) + r.least(r.t().patch(2, 3)),
-                "4[" + remove("/0") + "," + valued("add", "/1", "1") + "]");
+                "5[" + remove("/0") + "," + valued("add", "/1", "1") + "]");
         At told = at(22, "from the first ones of both on, if both are EQUAL, they are a pair");
         patches(told, "[1,1,1]", "[1]", remove("/2") + "," + remove("/1"));
         patches(told, "[1]", "[1,1,1]", valued("add", "/1", "1") + "," + valued("add", "/2", "1"));
