@@ -816,7 +816,7 @@ public final class Treeletter {
                 return 0;
             }
             int deepest = 0;
-            for (int c = node + 1; c < after(node) && open <= DEPTH; c = after(c)) {
+            for (int c = node + 1, n = 0; c < after(node) && n < NODES && open <= DEPTH; c = after(c), n++) {
                 deepest = Math.max(deepest, depth(c, open + 1));
             }
             return deepest + 1;
